@@ -85,7 +85,7 @@ public final class DebtStreet {
         tape = new byte[MOST_TEXT];
         faultPlace = NONE;
         told = new Told();
-        teller = new Teller(told);
+        teller = new Teller();
         now = new Street();
         history = new History();
         images = new Image[IMAGES];
@@ -96,9 +96,9 @@ public final class DebtStreet {
         for (int i = 0; i < trays.length; i++) {
             trays[i] = new Tray();
         }
-        course = new Course(told);
-        sorter = new Orders(course);
-        doors = new Doors(course);
+        course = new Course();
+        sorter = new Orders();
+        doors = new Doors();
     }
 
     // ---- the street
@@ -476,7 +476,7 @@ public final class DebtStreet {
         if (what != 0) {
             checkWithin(what, 10, 16);
         }
-        sorter.search(told, now, n);
+        sorter.search(course, told, now, n, false);
         if (what == 0) {
             return sorter.fewest;
         }
@@ -485,7 +485,7 @@ public final class DebtStreet {
 
     public int orders(int n) throws IllegalArgumentException {
         checkNear(n);
-        sorter.search(told, now, n);
+        sorter.search(course, told, now, n, true);
         return sorter.alike;
     }
 
@@ -649,7 +649,7 @@ public final class DebtStreet {
     // ---- hidden debts
 
     public int seen(int tray, int h) throws NoSuchElementException, IllegalStateException, IllegalArgumentException {
-        doors.find(told, seenTray(tray, h), h);
+        doors.find(course, told, seenTray(tray, h), h);
         return doors.found;
     }
 
@@ -659,12 +659,12 @@ public final class DebtStreet {
         if (k < 0) {
             throw new IllegalArgumentException("k is below 0");
         }
-        doors.find(told, row, h);
+        doors.find(course, told, row, h);
         return k < doors.found && k < doors.twos.length ? doors.twos[k] : NONE;
     }
 
     public int look(int tray, int h) throws NoSuchElementException, IllegalStateException, IllegalArgumentException {
-        doors.find(told, seenTray(tray, h), h);
+        doors.find(course, told, seenTray(tray, h), h);
         return doors.tellingMost(now.houses);
     }
 
@@ -918,18 +918,15 @@ public final class DebtStreet {
         void cut(byte[] text, int length) {
             int end = Math.min(length, text.length);
             many = 0;
-            int at = 0;
-            while (at < end) {
-                if (text[at] == 10 || text[at] == 32) {
-                    at++;
-                } else {
-                    at = cutOne(text, at, end);
+            for (int at = 0; at < end; at++) {
+                if (text[at] != 10 && text[at] != 32) {
+                    at = Math.max(at, cutOne(text, at, end));
                 }
             }
             add(END, 0, end);
         }
 
-        /** Cuts the token that begins at a place: the place behind it. */
+        /** Cuts the token that begins at a place: its last place. */
         private int cutOne(byte[] text, int from, int end) {
             int to = from + 1;
             if (isDigit(text[from])) {
@@ -948,7 +945,7 @@ public final class DebtStreet {
             } else {
                 add(SIGNS.indexOf((char) (text[from] & 255)) >= 0 ? text[from] : BAD, 0, from);
             }
-            return to;
+            return to - 1;
         }
 
         private boolean isDigit(int c) {
@@ -995,7 +992,7 @@ public final class DebtStreet {
         private static final int GROWS_WORDS = 0b0000111;
         private static final int TAKES_WORDS = 0b1001111;
 
-        Told told;
+        Told told = new Told();
         int fault;
         int place;
         private final Tokens tokens = new Tokens();
@@ -1004,10 +1001,6 @@ public final class DebtStreet {
         private final int[] code = new int[MOST_TEXT];
         private int codeLength;
         private int lawWords;
-
-        Teller(Told told) {
-            this.told = told;
-        }
 
         boolean read(byte[] text, int length) {
             told = new Told();
@@ -1032,10 +1025,11 @@ public final class DebtStreet {
                 case HOUSE:
                     return home(told.start);
                 case PAYS:
+                    return beginLaw(PAYS_WORDS) && sum(0) && keepLaw(word);
                 case GROWS:
+                    return beginLaw(GROWS_WORDS) && sum(0) && keepLaw(word);
                 case TAKES:
-                    skip();
-                    return expect(':') && law(word);
+                    return beginLaw(TAKES_WORDS) && truth(0) && keepLaw(word);
                 case LIMIT:
                     skip();
                     told.limit = numberTo(999);
@@ -1128,12 +1122,14 @@ public final class DebtStreet {
             return number != NONE;
         }
 
-        private boolean law(int word) {
-            lawWords = word == PAYS ? PAYS_WORDS : word == GROWS ? GROWS_WORDS : TAKES_WORDS;
+        private boolean beginLaw(int words) {
+            lawWords = words;
             codeLength = 0;
-            if (!(word == TAKES ? truth(0) : sum(0))) {
-                return false;
-            }
+            skip();
+            return expect(':');
+        }
+
+        private boolean keepLaw(int word) {
             int[] law = Arrays.copyOf(code, Math.max(codeLength, 0));
             if (word == PAYS) {
                 told.pays = law;
@@ -1174,20 +1170,27 @@ public final class DebtStreet {
         }
 
         private boolean unit(int depth) {
-            int sign = token;
-            if (sign != NOT && sign != '[') {
-                return comparison(depth);
+            int inside = depth;
+            for (int i = 0; i <= MOST_NESTED && token == NOT; i++) {
+                if (inside >= MOST_NESTED) {
+                    return fail(TOO_MANY);
+                }
+                skip();
+                inside++;
             }
+            boolean good = token == '[' ? bracket(inside) : comparison(inside);
+            if ((inside - depth & 1) == 1) {
+                emit(TOKEN + NOT);
+            }
+            return good;
+        }
+
+        private boolean bracket(int depth) {
             if (depth >= MOST_NESTED) {
                 return fail(TOO_MANY);
             }
             skip();
-            if (sign == '[') {
-                return truth(depth + 1) && expect(']');
-            }
-            boolean good = unit(depth + 1);
-            emit(TOKEN + NOT);
-            return good;
+            return truth(depth + 1) && expect(']');
         }
 
         private boolean comparison(int depth) {
@@ -1228,11 +1231,7 @@ public final class DebtStreet {
 
         private boolean atom(int depth) {
             if (token == '(') {
-                if (depth >= MOST_NESTED) {
-                    return fail(TOO_MANY);
-                }
-                skip();
-                return sum(depth + 1) && expect(')');
+                return parenthesis(depth);
             }
             if (token == NUMBER) {
                 emit(number());
@@ -1243,6 +1242,14 @@ public final class DebtStreet {
             }
             skip();
             return true;
+        }
+
+        private boolean parenthesis(int depth) {
+            if (depth >= MOST_NESTED) {
+                return fail(TOO_MANY);
+            }
+            skip();
+            return sum(depth + 1) && expect(')');
         }
     }
 
@@ -1313,11 +1320,7 @@ public final class DebtStreet {
         private final int[] left = new int[MOST_HOUSES];
         private final Scales scales = new Scales();
         private final Street ahead = new Street();
-        private Told told;
-
-        Course(Told told) {
-            this.told = told;
-        }
+        private Told told = new Told();
 
         /** The street ahead, as another one is: to be changed, and to go through quarters. */
         Street from(Told told, Street now) {
@@ -1444,23 +1447,22 @@ public final class DebtStreet {
         final int[] best = new int[MOST_HOUSES];
         int fewest;
         int alike;
-        private final Course course;
         private final Street asked = new Street();
         private final int[] homes = new int[MOST_HOUSES];
         private Told askedTold;
         private int askedQuarters;
+        private boolean askedAll;
 
-        Orders(Course course) {
-            this.course = course;
-        }
-
-        void search(Told told, Street now, int n) {
-            if (askedTold == told && askedQuarters == n && asked.isLike(now)) {
+        /** Goes through the orders, all of them or till none can be better. */
+        void search(Course course, Told told, Street now, int n, boolean all) {
+            boolean known = askedTold == told && askedQuarters == n && asked.isLike(now);
+            if (known && (askedAll || !all)) {
                 return;
             }
             askedTold = told;
             askedQuarters = n;
             asked.takeOver(now);
+            askedAll = true;
             for (int h = 0; h < MOST_HOUSES; h++) {
                 homes[h] = h;
             }
@@ -1473,6 +1475,10 @@ public final class DebtStreet {
                 }
                 note(course.losses(n, fewest));
                 more = step(Math.min(now.houses, MOST_HOUSES));
+                if (more && fewest == 0 && !all) {
+                    askedAll = false;
+                    more = false;
+                }
             }
         }
 
@@ -1521,14 +1527,9 @@ public final class DebtStreet {
         final int[] twos = new int[MOST_HOUSES * MOST_HIDDEN];
         int found;
         private final int[][] goes = new int[MOST_HOUSES][MOST_HOUSES * MOST_HIDDEN];
-        private final Course course;
-
-        Doors(Course course) {
-            this.course = course;
-        }
 
         /** Finds the twos, and for each of them what goes to the houses in the quarter behind those seen. */
-        void find(Told told, Tray seen, int h) {
+        void find(Course course, Told told, Tray seen, int h) {
             found = 0;
             for (int two = 0; two < twos.length; two++) {
                 int house = two / MOST_HIDDEN;
@@ -1536,16 +1537,16 @@ public final class DebtStreet {
                 if (told.start.has(house)) {
                     Street then = course.from(told, told.start);
                     then.debt[house] += more;
-                    if (fits(told, then, seen, h)) {
+                    if (fits(course, told, then, seen, h)) {
                         course.pass(told, then, told.limit);
-                        note(house * 100 + more);
+                        note(course, house * 100 + more);
                     }
                 }
             }
         }
 
         /** Whether a street, going through as many quarters, shows at a door what was seen there. */
-        private boolean fits(Told told, Street then, Tray seen, int h) {
+        private boolean fits(Course course, Told told, Street then, Tray seen, int h) {
             if (!then.has(h)) {
                 return false;
             }
@@ -1558,7 +1559,7 @@ public final class DebtStreet {
             return true;
         }
 
-        private void note(int two) {
+        private void note(Course course, int two) {
             if (found >= 0 && found < twos.length) {
                 twos[found] = two;
                 for (int door = 0; door < MOST_HOUSES; door++) {
