@@ -53,6 +53,7 @@ public final class DebtStreet {
             "debt house quarter cash earns spends own street ring row owes hedge empty pays grows takes limit not and or ";
     private static final String SIGNS = ";:+-*()[]=<>";
 
+    private static final int NO_TOKEN = 1;
     private static final int CANNOT_STAND = 2;
     private static final int OUT_OF_BOUNDS = 3;
     private static final int TOO_MANY = 4;
@@ -1051,7 +1052,7 @@ public final class DebtStreet {
         }
 
         private boolean fail(int kind) {
-            fault = token == BAD ? BAD : kind;
+            fault = token == BAD ? NO_TOKEN : kind;
             place = here >= 0 && here <= MOST_TEXT ? tokens.places[here] : 0;
             return false;
         }
