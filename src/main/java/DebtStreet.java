@@ -261,7 +261,8 @@ public final class DebtStreet {
         return history.many;
     }
 
-    public int judge(int tray, int what) throws NoSuchElementException, IllegalStateException, IllegalArgumentException {
+    public int judge(int tray, int what)
+            throws NoSuchElementException, IllegalStateException, IllegalArgumentException {
         Tray deeds = trayAt(tray);
         checkWithin(what, 0, 3);
         Street then = course.from(told, now);
@@ -442,7 +443,7 @@ public final class DebtStreet {
         course.from(told, now);
         course.addBurdens(n);
         int best = NONE;
-        for (int h = 0; h < now.houses; h++) {
+        for (int h = 0; h < now.houses && h < MOST_HOUSES; h++) {
             if (best == NONE || course.burdens[h] > course.burdens[best]) {
                 best = h;
             }
@@ -494,8 +495,8 @@ public final class DebtStreet {
         checkNear(n);
         int fewest = lostNow(n);
         int best = NONE;
-        for (int g = 0; g < now.houses; g++) {
-            for (int h = g + 1; h < now.houses; h++) {
+        for (int g = 0; g < now.houses && g < MOST_HOUSES; g++) {
+            for (int h = g + 1; h < now.houses && h < MOST_HOUSES; h++) {
                 course.from(told, now).exchange(g, h);
                 int lost = course.losses(n, fewest);
                 if (lost < fewest) {
@@ -512,8 +513,8 @@ public final class DebtStreet {
         course.from(told, now);
         course.addBurdens(n);
         course.keepBurdens();
-        for (int g = 0; g < now.houses; g++) {
-            for (int h = g + 1; h < now.houses; h++) {
+        for (int g = 0; g < now.houses && g < MOST_HOUSES; g++) {
+            for (int h = g + 1; h < now.houses && h < MOST_HOUSES; h++) {
                 if (bothGain(g, h, n)) {
                     return g * 10 + h;
                 }
@@ -537,7 +538,7 @@ public final class DebtStreet {
         checkNear(n);
         int best = NONE;
         long least = 0;
-        for (int k = 0; k < now.houses; k++) {
+        for (int k = 0; k < now.houses && k < MOST_HOUSES; k++) {
             course.from(told, now).exchange(h, k);
             course.addBurdens(n);
             if (best == NONE || course.burdens[k] < least) {
@@ -558,7 +559,7 @@ public final class DebtStreet {
         checkNotGone(h);
         int fewest = MOST_HOUSES + 1;
         int best = NONE;
-        for (int set = 0; set < 1 << now.houses; set++) {
+        for (int set = 0; set < 1 << Math.min(now.houses, MOST_HOUSES); set++) {
             if (Integer.bitCount(set) < fewest && isSavedBy(set, h, n)) {
                 fewest = Integer.bitCount(set);
                 best = set;
@@ -569,7 +570,7 @@ public final class DebtStreet {
 
     private boolean isSavedBy(int set, int h, int n) {
         Street then = course.from(told, now);
-        for (int k = 0; k < then.houses; k++) {
+        for (int k = 0; k < then.houses && k < MOST_HOUSES; k++) {
             if ((set >> k & 1) == 1) {
                 then.hedge[k] = n;
             }
@@ -581,7 +582,7 @@ public final class DebtStreet {
         checkNear(n);
         int fewest = lostNow(n);
         int best = NONE;
-        for (int h = 0; h < now.houses; h++) {
+        for (int h = 0; h < now.houses && h < MOST_HOUSES; h++) {
             course.from(told, now).hedge[h] = n;
             int lost = course.losses(n, fewest);
             if (lost < fewest) {
@@ -612,7 +613,7 @@ public final class DebtStreet {
         int greatest = 0;
         for (int i = 0; i < n; i++) {
             course.pass(told, then, MOST_MONEY);
-            for (int h = 0; h < then.houses; h++) {
+            for (int h = 0; h < then.houses && h < MOST_HOUSES; h++) {
                 if (!then.isGone(h)) {
                     greatest = Math.max(greatest, then.debt[h]);
                 }
@@ -639,8 +640,8 @@ public final class DebtStreet {
 
     public int pillar(int n) throws IllegalArgumentException {
         checkNear(n);
-        for (int h = now.houses - 1; h >= 0; h--) {
-            if (!now.isGone(h) && lossWithout(h, n) > 0) {
+        for (int h = MOST_HOUSES - 1; h >= 0; h--) {
+            if (now.has(h) && !now.isGone(h) && lossWithout(h, n) > 0) {
                 return h;
             }
         }
@@ -1045,9 +1046,10 @@ public final class DebtStreet {
         }
 
         private void skip() {
-            if (here + 1 >= 0 && here + 1 < tokens.many && here + 1 <= MOST_TEXT) {
-                here++;
-                token = tokens.kinds[here];
+            int next = here + 1;
+            if (next >= 0 && next < tokens.many && next <= MOST_TEXT) {
+                here = next;
+                token = tokens.kinds[next];
             }
         }
 
@@ -1471,7 +1473,7 @@ public final class DebtStreet {
             boolean more = true;
             for (int i = 0; i < MOST_ORDERS && more; i++) {
                 Street then = course.from(told, now);
-                for (int h = 0; h < now.houses; h++) {
+                for (int h = 0; h < now.houses && h < MOST_HOUSES; h++) {
                     then.moveIn(now, homes[h], h);
                 }
                 note(course.losses(n, fewest));
@@ -1540,7 +1542,7 @@ public final class DebtStreet {
                     then.debt[house] += more;
                     if (fits(course, told, then, seen, h)) {
                         course.pass(told, then, told.limit);
-                        note(course, house * 100 + more);
+                        note(house * 100 + more, course.came);
                     }
                 }
             }
@@ -1560,11 +1562,11 @@ public final class DebtStreet {
             return true;
         }
 
-        private void note(Course course, int two) {
+        private void note(int two, int[] came) {
             if (found >= 0 && found < twos.length) {
                 twos[found] = two;
-                for (int door = 0; door < MOST_HOUSES; door++) {
-                    goes[door][found] = course.came[door];
+                for (int door = 0; door < MOST_HOUSES && door < came.length; door++) {
+                    goes[door][found] = came[door];
                 }
                 found++;
             }
@@ -1622,7 +1624,7 @@ public final class DebtStreet {
         }
 
         void remember(Street now) {
-            if (many >= before.length) {
+            if (many < 0 || many >= before.length) {
                 Street eldest = before[0];
                 for (int i = 1; i < before.length; i++) {
                     before[i - 1] = before[i];
