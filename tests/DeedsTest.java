@@ -245,6 +245,8 @@ public final class DeedsTest {
             draw = 1103515245 * draw + 12345;
             quarters += (draw >>> 16) % 6 < 2 ? 1 : 0;
         }
+        C.due("one time", x.year(0, 1), 1);
+        C.due("a quarter", x.count(7), 1);
         C.due("without houses", none.year(77, 30), quarters);
         C.due("quarters alone", none.count(7), quarters);
         C.due("deeds", none.count(9), Math.min(10, quarters));

@@ -167,6 +167,8 @@ public final class HedgesTest {
         DebtStreet most = Checks.told("street ring;house 0 spends 0 owes 900 hedge 20;grows:99;");
         C.due("999", most.leastLimit(1), 999);
         C.due("by none", most.leastLimit(2), -1);
+        Checks.tell(most, "street ring;house 0 spends 0 owes 900 hedge 20;grows:100;");
+        C.due("1,000: by none", most.leastLimit(1), -1);
         // By each limit below somebody is lost, by this one and above nobody.
         String text = "house 9 spends 12 owes 25;house 20 spends 3 owes 9;house 1 spends 5 cash 9;grows:debt-20;limit ";
         int least = Checks.told("street ring;" + text + "1;").leastLimit(9);
@@ -207,6 +209,10 @@ public final class HedgesTest {
         C.due("pillar(1)", x.pillar(1), -1);
         x.swap(0, 1);
         C.due("where it swapped to", x.pillar(3), 0);
+        DebtStreet seven = Checks.told("street ring;limit 25;house 0 spends 0 hedge 3;house 0 spends 0;house 0 spends 0;"
+                + "house 0 spends 0 empty;house 0 spends 0 empty;house 0 spends 0 empty owes 24;house 26 spends 0 owes 20;");
+        C.due("none: it has a hedge behind it", seven.pillar(3), -1);
+        C.due("house 6", seven.pillar(4), 6);
         DebtStreet two = Checks.told("street ring;limit 9;house 5 spends 0 owes 5;house 5 spends 0 owes 5;"
                 + "house 5 spends 0 owes 5;house 0 spends 0 owes 5 hedge 1;");
         C.due("the last of all", two.pillar(1), lastPillar(two, 1));

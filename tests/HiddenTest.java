@@ -1,3 +1,7 @@
+import java.util.Collections;
+import java.util.HashMap;
+import java.util.List;
+import java.util.Map;
 import java.util.NoSuchElementException;
 
 /** Promises 39 to 41: seen, hidden, look. */
@@ -126,6 +130,9 @@ public final class HiddenTest {
         // hidden at 0 or at 2: in the second quarter these come to house 2, and to house 1
         C.due("twos", ring.seen(0, 2), 198);
         C.due("the first of like ones", ring.look(0, 2), 1);
+        // In the third quarter each has come round: at all doors 198 twos have one and the same.
+        Checks.fill(ring, 0, 1, -1, -1);
+        C.due("all alike: the first", ring.look(0, 2), 0);
         Checks.fill(ring, 0, 1, 7);
         C.due("at 0 or at 1: they come to 2, to 0", ring.look(0, 0), 0);
     }
@@ -134,12 +141,14 @@ public final class HiddenTest {
     private static void byTelling() {
         int[] owes = {9, 22, 3};
         String rest = ";grows:debt-30;takes:own<25 or quarter>1;limit 60;";
-        long[][] rows = {{-1, 12}, {22, -1, -1}, {9, 22, -1, -1}, {-1, -1, 31}, {0}, {-1, 0}};
+        long[][] rows = {{-1, 12}, {22, -1, -1}, {9, 22, -1, -1}, {-1, -1, 31}, {0}, {-1, 0}, {-1}, {-1, -1},
+            {-1, -1, -1, -1, -1}, {0, 0}};
         for (long[] row : rows) {
             for (int h = 0; h < 3; h++) {
                 DebtStreet x = Checks.told(text(owes) + rest);
                 Checks.fill(x, 0, 2, row);
                 int found = 0;
+                List<Map<Long, Integer>> next = List.of(new HashMap<>(), new HashMap<>(), new HashMap<>());
                 for (int two = 1; two < 300; two++) {
                     if (two % 100 == 0) {
                         continue;
@@ -150,12 +159,27 @@ public final class HiddenTest {
                     if (isLike(y, h, row)) {
                         C.due("two " + found, x.hidden(0, h, found), two);
                         found++;
+                        for (int door = 0; door < 3; door++) {
+                            long goes = y.burden(door, row.length + 1) - y.burden(door, row.length);
+                            next.get(door).merge(goes, 1, Integer::sum);
+                        }
                     }
                 }
                 C.due("how many", x.seen(0, h), found);
                 C.due("no more", x.hidden(0, h, found), -1);
+                C.due("look", x.look(0, h), found == 0 ? -1 : tellingMost(next));
             }
         }
+    }
+
+    private static int tellingMost(List<Map<Long, Integer>> next) {
+        int best = 0;
+        for (int door = 1; door < next.size(); door++) {
+            if (Collections.max(next.get(door).values()) < Collections.max(next.get(best).values())) {
+                best = door;
+            }
+        }
+        return best;
     }
 
     private static String text(int[] owes) {

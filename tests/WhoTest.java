@@ -75,6 +75,12 @@ public final class WhoTest {
         C.due("house 1", gone.order(1, 11), 2);
         C.due("house 2", gone.order(1, 12), 1);
         C.due("house 3", gone.order(1, 13), 3);
+        asLatest();
+        // All seven are lost in all orders.
+        DebtStreet all = Checks.told(seven("ring").replace("spends 0;", "spends 9;") + "limit 8;");
+        C.due("seven", all.order(1, 0), 7);
+        C.due("the first", all.order(1, 16), 6);
+        C.due("all as good", all.orders(1), 5040);
         // The same question of another street, behind deeds, and undone.
         gone.swap(1, 2);
         C.due("swapped", gone.order(1, 11), 1);
@@ -86,6 +92,33 @@ public final class WhoTest {
         Checks.tell(gone, "street ring;limit 99;house 0 spends 0 owes 9;house 0 spends 0;");
         C.due("told again", gone.orders(1), 2);
         C.due("told again", gone.order(1, 10), 0);
+    }
+
+    /** The same question, when just the quarter or just house 0 is another one. */
+    private static void asLatest() {
+        DebtStreet x = Checks.told("street row;limit 5;takes:quarter>2;house 0 spends 0 owes 9 hedge 20 empty;"
+                + "house 0 spends 0;house 0 spends 0 empty;house 0 spends 0 empty;");
+        C.due("all as good", x.orders(1), 18);
+        C.due("none is lost", x.order(1, 0), 0);
+        C.due("it must not live with the debt", x.order(1, 10), 0);
+        x.quarters(3);
+        C.due("now the debt goes to house 1", x.order(1, 11), 2);
+        C.due("all as good", x.orders(1), 18);
+        x.plant(1, 1);
+        C.due("and now not", x.order(1, 11), 1);
+        DebtStreet y = Checks.told("street row;limit 5;pays:0;house 9 spends 0 owes 9;house 9 spends 0;"
+                + "house 0 spends 0 empty;");
+        C.due("fewest", y.order(1, 0), 0);
+        C.due("a gone one to house 1", y.order(1, 11), 2);
+        y.payOff(0, 9);
+        C.due("no cash yet", y.order(1, 11), 2);
+        y.plant(1, 1);
+        y.plant(0, 1);
+        C.due("the debt stays at house 0", y.order(1, 10), 2);
+        y.plant(1, 0);
+        C.due("the debt goes again", y.order(1, 10), 0);
+        y.undo(3);
+        C.due("as ahead of these", y.order(1, 11), 2);
     }
 
     /** By the order that is told as many are lost as when all have swapped there. */
@@ -130,6 +163,9 @@ public final class WhoTest {
         C.due("with a gone one", gone.bestSwap(1), 13);
         C.due("in two quarters: one of 0, 1, 2 is free of it", gone.bestSwap(2), 13);
         C.due("in four: none", gone.bestSwap(4), -1);
+        DebtStreet next = Checks.told("street row;limit 5;house 0 spends 0 owes 9 hedge 9;house 0 spends 0;"
+                + "house 0 spends 0 empty;house 0 spends 0;");
+        C.due("with the next one", next.bestSwap(1), 12);
         C.due("nothing is done", gone.count(9), 0);
     }
 
