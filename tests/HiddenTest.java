@@ -50,6 +50,12 @@ public final class HiddenTest {
             C.refused("hidden: " + v, A, () -> x.hidden(2, 0, 0));
             C.refused("look: " + v, A, () -> x.look(2, 0));
         }
+        for (int place = 0; place < 12; place++) {
+            x.write(2, 11, 0);
+            x.write(2, place, -2);
+            C.refused("seen: -2 at " + place, A, () -> x.seen(2, 0));
+            x.write(2, place, -1);
+        }
         x.write(2, 11, 999_999);
         C.due("999,999", x.seen(2, 0), 0);
         x.write(2, 11, -1);

@@ -141,6 +141,9 @@ public final class ToComeTest {
         C.due("of one ruined", row.burden(1, 3), 6);
         C.due("of a gone one", row.burden(2, 3), 12);
         C.due("the first house of a row", row.burden(0, 20), 0);
+        Checks.tell(x, "street row;house 0 spends 0 owes 9;house 0 spends 0;");
+        C.due("a row now, nothing comes round", x.burden(0, 9), 0);
+        C.due("to house 1", x.burden(1, 9), 9);
         DebtStreet much = Checks.told("street ring;house 0 spends 0 owes 999 empty;grows:999;");
         for (int i = 0; i < 11; i++) {
             much.quarters(99);

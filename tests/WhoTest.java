@@ -110,8 +110,12 @@ public final class WhoTest {
                 + "house 0 spends 0 empty;");
         C.due("fewest", y.order(1, 0), 0);
         C.due("a gone one to house 1", y.order(1, 11), 2);
-        y.payOff(0, 9);
-        C.due("no cash yet", y.order(1, 11), 2);
+        DebtStreet z = Checks.told("street ring;limit 5;house 0 spends 0;house 0 spends 0 empty;"
+                + "house 0 spends 0 owes 9;");
+        C.due("a gone one to house 0", z.order(1, 10), 1);
+        z.plant(0, 3);
+        C.due("not behind a hedge", z.order(1, 10), 0);
+        C.due("but to house 2", z.order(1, 12), 1);
         y.plant(1, 1);
         y.plant(0, 1);
         C.due("the debt stays at house 0", y.order(1, 10), 2);
@@ -184,6 +188,12 @@ public final class WhoTest {
         C.due("burden of 1, now in 2", y.burden(2, 3) < 5, true);
         C.due("burden of 2, now in 1", y.burden(1, 3) < 60, true);
         C.due("not back", y.wouldSwap(3), -1);
+        for (int owes = 9; owes <= 16; owes++) {
+            // In a quarter 10 come to house 1, owes to house 2; swapped 10 and owes - 5.
+            DebtStreet even = Checks.told("street row;limit 999;house 0 spends 0 owes 10;house 0 spends 0 owes " + owes
+                    + ";house 0 spends 0 cash 5;");
+            C.due("less for both: " + owes, even.wouldSwap(1), owes > 10 && owes < 15 ? 12 : -1);
+        }
         DebtStreet gone = Checks.told("street row;house 10 spends 5 cash 20 owes 30;house 5 spends 10 owes 40 empty;"
                 + "house 20 spends 5 cash 50 hedge 1;limit 60;");
         C.due("who is gone would not", gone.wouldSwap(3), -1);
